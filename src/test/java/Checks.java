@@ -13,26 +13,20 @@ final class Checks {
     }
 
     void due(long want, String call, Call made) {
-        checked++;
-        String got;
-        try {
-            got = Long.toString(made.answer());
-        } catch (RuntimeException e) {
-            got = e.getClass().getName();
-        }
-        tell(call, got, Long.toString(want));
+        compare(call, told(made), Long.toString(want));
     }
 
     /** The class must be the very one: a class below it would be the machine's own exception. */
     void thrown(Class<? extends RuntimeException> want, String call, Call made) {
-        checked++;
-        String got;
+        compare(call, told(made), want.getName());
+    }
+
+    private static String told(Call made) {
         try {
-            got = Long.toString(made.answer());
+            return Long.toString(made.answer());
         } catch (RuntimeException e) {
-            got = e.getClass().getName();
+            return e.getClass().getName();
         }
-        tell(call, got, want.getName());
     }
 
     void noPlace(String call, Call made) {
@@ -47,7 +41,8 @@ final class Checks {
         thrown(IllegalStateException.class, call, made);
     }
 
-    private void tell(String call, String got, String want) {
+    private void compare(String call, String got, String want) {
+        checked++;
         if (!got.equals(want)) {
             wrong++;
             System.out.println(test + ": " + call + " answered " + got + ", due is " + want);

@@ -21,14 +21,6 @@ public final class LiftsTest {
         c.close();
     }
 
-    private static Stepscript at(int... places) {
-        Stepscript x = new Stepscript();
-        for (int i = 0; i + 1 < places.length; i += 2) {
-            x.dancer(places[i], places[i + 1]);
-        }
-        return x;
-    }
-
     private static void state(Stepscript x, int lift, int count, int lifted, int one, int other, int stands) {
         int[] want = {count, lifted, one, other, stands};
         for (int what = 0; what < want.length; what++) {
@@ -45,7 +37,7 @@ public final class LiftsTest {
     }
 
     private static void liftThrows() {
-        Stepscript x = at(0, 0, 1, 0, 0, 1, 5, 5);
+        Stepscript x = Houses.at(0, 0, 1, 0, 0, 1, 5, 5);
         x.hurt(3);
         c.noPlace("count 64", () -> x.lift(64, 0, 1, 2));
         c.noPlace("count -1", () -> x.lift(-1, 0, 1, 2));
@@ -64,7 +56,7 @@ public final class LiftsTest {
     }
 
     private static void twelveLifts() {
-        Stepscript x = at(0, 0, 1, 0, 0, 1);
+        Stepscript x = Houses.at(0, 0, 1, 0, 0, 1);
         for (int i = 0; i < 12; i++) {
             int number = i;
             c.due(i, "lift " + i, () -> x.lift(number / 2, 0, 1, 2));
@@ -80,7 +72,7 @@ public final class LiftsTest {
     }
 
     private static void ofLift() {
-        Stepscript x = at(3, 3, 4, 3, 3, 4, 2, 2);
+        Stepscript x = Houses.at(3, 3, 4, 3, 3, 4, 2, 2);
         x.lift(7, 1, 2, 0);
         x.lift(8, 3, 0, 2);
         state(x, 0, 7, 1, 2, 0, 1);
@@ -93,7 +85,7 @@ public final class LiftsTest {
     }
 
     private static void standingByPlaces() {
-        Stepscript x = at(3, 3, 4, 4, 2, 2);
+        Stepscript x = Houses.at(3, 3, 4, 4, 2, 2);
         x.lift(5, 0, 1, 2);
         c.due(1, "slantwise", () -> x.ofLift(0, 4));
         x.move(1, 5, 1, 0);
@@ -116,7 +108,7 @@ public final class LiftsTest {
     }
 
     private static void standingByOtherLifts() {
-        Stepscript x = at(3, 3, 4, 3, 3, 4, 2, 3, 3, 2, 7, 7, 7, 6);
+        Stepscript x = Houses.at(3, 3, 4, 3, 3, 4, 2, 3, 3, 2, 7, 7, 7, 6);
         x.lift(5, 0, 1, 2);
         x.lift(6, 0, 1, 2);
         c.due(1, "a lift on another count", () -> x.ofLift(0, 4));
@@ -129,10 +121,16 @@ public final class LiftsTest {
         x.lift(5, 0, 3, 4);
         c.due(0, "who is lifted is in another one", () -> x.ofLift(0, 4));
         c.due(0, "both ways", () -> x.ofLift(3, 4));
+        Stepscript y = Houses.at(3, 3, 4, 3, 3, 4, 7, 7, 7, 6);
+        y.lift(5, 0, 1, 2);
+        y.lift(5, 3, 4, 1);
+        c.due(0, "the first one who lifts is in another one", () -> y.ofLift(0, 4));
+        y.hurt(3);
+        c.due(1, "which is gone", () -> y.ofLift(0, 4));
     }
 
     private static void hurtThrows() {
-        Stepscript x = at(0, 0);
+        Stepscript x = Houses.at(0, 0);
         c.noPlace("dancer 1", () -> x.hurt(1));
         c.noPlace("dancer -1", () -> x.hurt(-1));
         c.due(0, "hurt", () -> x.hurt(0));
@@ -140,7 +138,7 @@ public final class LiftsTest {
     }
 
     private static void hurtDropsLiftsOf() {
-        Stepscript x = at(0, 0, 1, 0, 0, 1, 1, 1);
+        Stepscript x = Houses.at(0, 0, 1, 0, 0, 1, 1, 1);
         x.lift(1, 0, 1, 2);
         x.lift(2, 0, 3, 2);
         x.lift(3, 3, 1, 2);
@@ -152,7 +150,7 @@ public final class LiftsTest {
 
     private static void hurtTakesOneBeside() {
         // 3 could come with two moves, 4 and 5 are beside already: 4 is the lower one.
-        Stepscript x = at(3, 3, 4, 3, 3, 4, 5, 3, 2, 2, 2, 3);
+        Stepscript x = Houses.at(3, 3, 4, 3, 3, 4, 5, 3, 2, 2, 2, 3);
         x.lift(5, 0, 1, 2);
         c.due(0, "none is needed", () -> x.hurt(1));
         state(x, 0, 5, 0, 4, 2, 1);
@@ -165,7 +163,7 @@ public final class LiftsTest {
 
     private static void hurtTakesOneWhoComes() {
         // 3 is three columns away, 4 and 5 are two: 4 is the lower one.
-        Stepscript x = at(3, 3, 4, 3, 3, 4, 7, 3, 6, 5, 6, 1);
+        Stepscript x = Houses.at(3, 3, 4, 3, 3, 4, 7, 3, 6, 5, 6, 1);
         x.move(4, 8, 0, 1);
         x.lift(5, 0, 1, 2);
         c.due(2, "two moves", () -> x.hurt(1));
@@ -179,7 +177,7 @@ public final class LiftsTest {
 
     private static void hurtWayMustFit() {
         // The way of 3 is (-1, 0), that of 4 (-2, 0).
-        Stepscript x = at(3, 3, 4, 3, 3, 4, 7, 3, 6, 5);
+        Stepscript x = Houses.at(3, 3, 4, 3, 3, 4, 7, 3, 6, 5);
         x.move(3, 4, -2, 0);
         x.move(4, 4, 0, -2);
         x.move(3, 6, 2, 0);
@@ -187,18 +185,18 @@ public final class LiftsTest {
         c.due(2, "3 would have 3 on the next count", () -> x.hurt(1));
         state(x, 0, 5, 0, 4, 2, 1);
         where(x, 3, 5, 5, 3);
-        Stepscript y = at(3, 3, 4, 3, 3, 4, 7, 3);
+        Stepscript y = Houses.at(3, 3, 4, 3, 3, 4, 7, 3);
         y.move(3, 5, -2, 0);
         y.lift(5, 0, 1, 2);
         c.due(0, "the sum on the count is beyond -2", () -> y.hurt(1));
         state(y, 0, 5, 0, 1, 2, 2);
         where(y, 3, 5, 5, 3);
-        Stepscript z = at(3, 3, 4, 3, 3, 4, 7, 3);
+        Stepscript z = Houses.at(3, 3, 4, 3, 3, 4, 7, 3);
         z.move(3, 5, -1, 0);
         z.move(3, 6, -1, 2);
         z.lift(5, 0, 1, 2);
         c.due(0, "-1 and -2", () -> z.hurt(1));
-        Stepscript w = at(3, 3, 4, 3, 3, 4, 5, 5);
+        Stepscript w = Houses.at(3, 3, 4, 3, 3, 4, 5, 5);
         w.move(3, 5, 1, 0);
         w.move(3, 6, -2, 0);
         w.lift(5, 0, 1, 2);
@@ -206,24 +204,30 @@ public final class LiftsTest {
         where(w, 3, 5, 4, 3);
         where(w, 3, 6, 4, 5);
         where(w, 3, 63, 4, 5);
-        Stepscript v = at(3, 3, 4, 3, 3, 4, 4, 6);
+        Stepscript v = Houses.at(3, 3, 4, 3, 3, 4, 4, 6);
         v.lift(5, 0, 1, 2);
         c.due(0, "three rows away", () -> v.hurt(1));
         state(v, 0, 5, 0, 1, 2, 2);
+        Stepscript u = Houses.at(3, 3, 4, 3, 3, 4, 4, 5);
+        u.move(3, 5, 0, 1);
+        u.move(3, 6, 0, -1);
+        u.lift(5, 0, 1, 2);
+        c.due(0, "three rows away, though both sums would fit", () -> u.hurt(1));
+        state(u, 0, 5, 0, 1, 2, 2);
     }
 
     private static void hurtAtTheLastCount() {
-        Stepscript x = at(3, 3, 4, 3, 3, 4, 5, 3);
+        Stepscript x = Houses.at(3, 3, 4, 3, 3, 4, 5, 3);
         x.lift(63, 0, 1, 2);
         c.due(0, "no count behind it", () -> x.hurt(1));
         state(x, 0, 63, 0, 1, 2, 2);
         where(x, 3, 63, 5, 3);
-        Stepscript y = at(3, 3, 4, 3, 3, 4, 5, 3);
+        Stepscript y = Houses.at(3, 3, 4, 3, 3, 4, 5, 3);
         y.lift(62, 0, 1, 2);
         c.due(2, "the last but one", () -> y.hurt(1));
         where(y, 3, 62, 4, 3);
         where(y, 3, 63, 5, 3);
-        Stepscript z = at(3, 3, 4, 3, 3, 4, 2, 2);
+        Stepscript z = Houses.at(3, 3, 4, 3, 3, 4, 2, 2);
         z.lift(63, 0, 1, 2);
         c.due(0, "who is beside needs no next count", () -> z.hurt(1));
         state(z, 0, 63, 0, 3, 2, 1);
@@ -231,14 +235,14 @@ public final class LiftsTest {
 
     private static void hurtWithNoWay() {
         // 3 is at the place of 1, which is not beside 0.
-        Stepscript x = at(0, 0, 4, 3, 0, 1, 5, 3);
+        Stepscript x = Houses.at(0, 0, 4, 3, 0, 1, 5, 3);
         x.move(3, 2, -1, 0);
         x.lift(5, 0, 1, 2);
         c.due(2, "counted as 2", () -> x.hurt(1));
         state(x, 0, 5, 0, 3, 2, 0);
         where(x, 3, 6, 4, 3);
         c.due(1, "no move more", () -> x.move(3, 20, 0, 0));
-        Stepscript y = at(0, 0, 4, 3, 0, 1, 5, 3);
+        Stepscript y = Houses.at(0, 0, 4, 3, 0, 1, 5, 3);
         y.move(3, 2, -1, 0);
         y.lift(63, 0, 1, 2);
         c.due(0, "but a next count must be", () -> y.hurt(1));
@@ -246,7 +250,7 @@ public final class LiftsTest {
     }
 
     private static void hurtPassesOverBusyOnes() {
-        Stepscript x = at(3, 3, 4, 3, 3, 4, 2, 2, 2, 3, 7, 7, 2, 4);
+        Stepscript x = Houses.at(3, 3, 4, 3, 3, 4, 2, 2, 2, 3, 7, 7, 2, 4);
         x.lift(5, 3, 4, 5);
         x.lift(5, 0, 1, 2);
         c.due(0, "3 and 4 are in a lift on that count", () -> x.hurt(1));
@@ -260,7 +264,7 @@ public final class LiftsTest {
 
     private static void hurtByNumbers() {
         // Both lifts lose 1; 5 is the only one for either, and the first lift gets it.
-        Stepscript x = at(3, 3, 4, 3, 3, 4, 5, 2, 6, 7, 4, 4);
+        Stepscript x = Houses.at(3, 3, 4, 3, 3, 4, 5, 2, 6, 7, 4, 4);
         x.lift(5, 0, 2, 1);
         x.lift(5, 3, 1, 4);
         c.due(0, "hurt", () -> x.hurt(1));
@@ -273,7 +277,7 @@ public final class LiftsTest {
 
     /** 3 can come on count 6 only after the way back of coming on count 5 was written there. */
     private static void hurtOnTwoCounts(int first) {
-        Stepscript x = at(3, 3, 5, 3, 3, 4, 5, 5);
+        Stepscript x = Houses.at(3, 3, 5, 3, 3, 4, 5, 5);
         x.move(1, 6, 0, -1);
         x.move(3, 6, 0, -2);
         x.lift(first, 0, 1, 2);
@@ -291,7 +295,7 @@ public final class LiftsTest {
     }
 
     private static void hurtLeavesGoneLifts() {
-        Stepscript x = at(3, 3, 4, 3, 3, 4, 2, 2);
+        Stepscript x = Houses.at(3, 3, 4, 3, 3, 4, 2, 2);
         x.lift(5, 0, 1, 2);
         x.hurt(0);
         c.due(0, "hurt", () -> x.hurt(1));

@@ -9,21 +9,14 @@ public final class RehearsalsTest {
         roomsAndHours();
         kneesBear();
         asPlanned();
+        writtenOutPayNothing();
         goneLifts();
         sleeping();
         c.close();
     }
 
-    private static Stepscript at(int... places) {
-        Stepscript x = new Stepscript();
-        for (int i = 0; i + 1 < places.length; i += 2) {
-            x.dancer(places[i], places[i + 1]);
-        }
-        return x;
-    }
-
     private static void throwing() {
-        Stepscript x = at(0, 0);
+        Stepscript x = Houses.at(0, 0);
         x.rehearse(0, 8, 0, 0);
         c.noPlace("room 3", () -> x.rehearse(3, 8, 0, 0));
         c.noPlace("room -1", () -> x.rehearse(-1, 8, 0, 0));
@@ -47,7 +40,7 @@ public final class RehearsalsTest {
     }
 
     private static void whoTakesPart() {
-        Stepscript x = at(0, 0, 1, 0, 2, 0, 3, 0, 4, 0, 5, 0, 6, 0, 7, 0);
+        Stepscript x = Houses.at(0, 0, 1, 0, 2, 0, 3, 0, 4, 0, 5, 0, 6, 0, 7, 0);
         x.move(1, 10, 0, 1);
         x.move(7, 20, -1, 0);
         x.move(2, 10, 1, 0);
@@ -65,7 +58,7 @@ public final class RehearsalsTest {
     }
 
     private static void whatItCosts() {
-        Stepscript x = at(0, 0, 1, 0, 2, 0, 3, 0);
+        Stepscript x = Houses.at(0, 0, 1, 0, 2, 0, 3, 0);
         x.move(0, 1, 2, -2);
         x.move(0, 2, -1, 0);
         x.move(0, 3, 1, 1);
@@ -84,7 +77,7 @@ public final class RehearsalsTest {
     }
 
     private static void roomsAndHours() {
-        Stepscript x = at(0, 0, 1, 0, 7, 7);
+        Stepscript x = Houses.at(0, 0, 1, 0, 7, 7);
         x.move(0, 1, 1, 1);
         x.move(1, 1, 1, 1);
         x.move(1, 2, 1, 1);
@@ -102,7 +95,7 @@ public final class RehearsalsTest {
     }
 
     private static void kneesBear() {
-        Stepscript x = at(0, 0, 7, 7);
+        Stepscript x = Houses.at(0, 0, 7, 7);
         for (int count = 0; count < 20; count++) {
             x.move(0, count, 2, -2);
         }
@@ -124,7 +117,7 @@ public final class RehearsalsTest {
     }
 
     private static void asPlanned() {
-        Stepscript x = at(0, 0, 1, 0, 2, 0);
+        Stepscript x = Houses.at(0, 0, 1, 0, 2, 0);
         x.move(0, 1, 1, 0);
         x.move(1, 1, 1, 0);
         c.due(3, "planned", () -> x.rehearse(0, 8, 1, 1));
@@ -140,8 +133,24 @@ public final class RehearsalsTest {
         c.due(0, "knees of one written out go down", () -> x.knees(1));
     }
 
+    private static void writtenOutPayNothing() {
+        Stepscript x = Houses.at(0, 0, 7, 7);
+        for (int count = 0; count < 20; count++) {
+            x.move(0, count, 2, 2);
+        }
+        x.move(1, 0, -1, 0);
+        x.hurt(0);
+        c.due(2, "80 points of one written out do not refuse it", () -> x.rehearse(0, 8, 0, 19));
+        c.due(0, "nor are they paid", () -> x.knees(0));
+        c.due(1, "the other one pays", () -> x.knees(1));
+        x.dancer(4, 4);
+        c.refused("1 is in room 0", () -> x.rehearse(1, 8, 0, 0));
+        c.due(2, "one with no move does not take part", () -> x.rehearse(1, 9, 0, 0));
+        c.due(0, "nor pay", () -> x.knees(2));
+    }
+
     private static void goneLifts() {
-        Stepscript x = at(0, 0, 1, 0, 0, 1, 7, 7);
+        Stepscript x = Houses.at(0, 0, 1, 0, 0, 1, 7, 7);
         x.lift(5, 0, 1, 2);
         x.hurt(0);
         c.due(0, "a gone lift", () -> x.rehearse(0, 8, 5, 5));
@@ -149,7 +158,7 @@ public final class RehearsalsTest {
     }
 
     private static void sleeping() {
-        Stepscript x = at(0, 0);
+        Stepscript x = Houses.at(0, 0);
         x.move(0, 0, 2, 2);
         for (int i = 0; i < 8; i++) {
             x.rehearse(2, 13 + i, 0, 0);
