@@ -13,19 +13,18 @@ final class Checks {
     }
 
     void due(long want, String call, Call made) {
-        compare(call, told(made), Long.toString(want));
+        alike(call, told(made), Long.toString(want));
     }
 
-    /** The class must be the very one: a class below it would be the machine's own exception. */
     void thrown(Class<? extends RuntimeException> want, String call, Call made) {
-        compare(call, told(made), want.getName());
+        alike(call, told(made), want.getName());
     }
 
     private static String told(Call made) {
         try {
             return Long.toString(made.answer());
         } catch (RuntimeException e) {
-            return e.getClass().getName();
+            return Line.nameOf(e);
         }
     }
 
@@ -41,12 +40,41 @@ final class Checks {
         thrown(IllegalStateException.class, call, made);
     }
 
-    private void compare(String call, String got, String want) {
+    // The same for calls told as lines, where the arguments come out of loops.
+
+    void due(long want, Stepscript x, String name, int... args) {
+        line(Long.toString(want), x, name, args);
+    }
+
+    void noPlace(Stepscript x, String name, int... args) {
+        line(IndexOutOfBoundsException.class.getName(), x, name, args);
+    }
+
+    void badArgument(Stepscript x, String name, int... args) {
+        line(IllegalArgumentException.class.getName(), x, name, args);
+    }
+
+    void refused(Stepscript x, String name, int... args) {
+        line(IllegalStateException.class.getName(), x, name, args);
+    }
+
+    void beyond(Stepscript x, String name, int... args) {
+        line(ArithmeticException.class.getName(), x, name, args);
+    }
+
+    private void line(String want, Stepscript x, String name, int... args) {
+        Line call = new Line(name, args);
+        alike(call, call.askedOf(x), want);
+    }
+
+    boolean alike(Object call, String got, String want) {
         checked++;
-        if (!got.equals(want)) {
+        boolean alike = got.equals(want);
+        if (!alike) {
             wrong++;
             System.out.println(test + ": " + call + " answered " + got + ", due is " + want);
         }
+        return alike;
     }
 
     void close() {
