@@ -14,30 +14,30 @@ public final class FaceTest {
 
     public static void main(String[] args) {
         TreeSet<String> want = new TreeSet<>(Arrays.asList(
-                "int NONE",
-                "new()",
-                "int dancer(int, int) " + INDEX + " " + STATE,
-                "int move(int, int, int, int) " + INDEX + " " + ARGUMENT + " " + STATE,
-                "int place(int, int, boolean) " + INDEX,
-                "int placeAnew(int, int, boolean) " + INDEX,
-                "int clashes(int) " + INDEX,
-                "int firstClash()",
-                "int lift(int, int, int, int) " + INDEX + " " + ARGUMENT + " " + STATE,
-                "int ofLift(int, int) " + INDEX + " " + ARGUMENT,
-                "int tempo(int, int) " + INDEX + " " + ARGUMENT,
-                "int begins(int) " + INDEX + " ArithmeticException",
-                "int rehearse(int, int, int, int) " + INDEX + " " + ARGUMENT + " " + STATE,
-                "int rehearsal(int, int) " + INDEX,
-                "int knees(int) " + INDEX,
-                "int hurt(int) " + INDEX + " " + STATE,
-                "int sleep()"));
+                "public static final int NONE",
+                "public new()",
+                "public int dancer(int, int) " + INDEX + " " + STATE,
+                "public int move(int, int, int, int) " + INDEX + " " + ARGUMENT + " " + STATE,
+                "public int place(int, int, boolean) " + INDEX,
+                "public int placeAnew(int, int, boolean) " + INDEX,
+                "public int clashes(int) " + INDEX,
+                "public int firstClash()",
+                "public int lift(int, int, int, int) " + INDEX + " " + ARGUMENT + " " + STATE,
+                "public int ofLift(int, int) " + INDEX + " " + ARGUMENT,
+                "public int tempo(int, int) " + INDEX + " " + ARGUMENT,
+                "public int begins(int) " + INDEX + " ArithmeticException",
+                "public int rehearse(int, int, int, int) " + INDEX + " " + ARGUMENT + " " + STATE,
+                "public int rehearsal(int, int) " + INDEX,
+                "public int knees(int) " + INDEX,
+                "public int hurt(int) " + INDEX + " " + STATE,
+                "public int sleep()"));
         TreeSet<String> got = face();
         boolean shut = Modifier.isFinal(Stepscript.class.getModifiers())
                 && Modifier.isPublic(Stepscript.class.getModifiers());
-        boolean alike = got.equals(want) && shut;
+        boolean alike = got.equals(want) && shut && Stepscript.NONE == -1;
         System.out.println("FaceTest: " + got.size() + " members, " + (alike ? "as due" : "not as due"));
         if (!alike) {
-            System.out.println("got  " + got + "\ndue  " + want + "\npublic and final: " + shut);
+            System.out.println("got  " + got + "\ndue  " + want + "\npublic and final: " + shut + ", NONE: " + Stepscript.NONE);
             System.exit(1);
         }
     }
@@ -46,17 +46,19 @@ public final class FaceTest {
         TreeSet<String> face = new TreeSet<>();
         for (Field field : Stepscript.class.getDeclaredFields()) {
             if (isOpen(field)) {
-                face.add(field.getType().getSimpleName() + " " + field.getName());
+                face.add(Modifier.toString(field.getModifiers()) + " " + field.getType().getSimpleName()
+                        + " " + field.getName());
             }
         }
         for (Constructor<?> made : Stepscript.class.getDeclaredConstructors()) {
             if (isOpen(made)) {
-                face.add("new" + names(made.getParameterTypes()));
+                face.add(Modifier.toString(made.getModifiers()) + " new" + names(made.getParameterTypes()));
             }
         }
         for (Method method : Stepscript.class.getDeclaredMethods()) {
             if (isOpen(method)) {
-                StringBuilder told = new StringBuilder(method.getReturnType().getSimpleName());
+                StringBuilder told = new StringBuilder(Modifier.toString(method.getModifiers()));
+                told.append(' ').append(method.getReturnType().getSimpleName());
                 told.append(' ').append(method.getName()).append(names(method.getParameterTypes()));
                 for (Class<?> thrown : method.getExceptionTypes()) {
                     told.append(' ').append(thrown.getSimpleName());

@@ -1,5 +1,3 @@
-import java.util.Random;
-
 /** Many runs of calls, the same each time, on the class and on the plain house: all answers must be alike. */
 public final class LikePlainHouseTest {
     private static final int RUNS = 3000;
@@ -9,7 +7,7 @@ public final class LikePlainHouseTest {
     /** How often each is called. */
     private static final int[] SHARES = {6, 30, 6, 6, 8, 3, 8, 10, 3, 4, 12, 4, 6, 1, 2};
 
-    private final Random random;
+    private final Draws draws;
     /** Whether dancers, counts, hours and spans of rehearsals come from all that there are. */
     private final boolean wide;
     private final int span;
@@ -17,10 +15,10 @@ public final class LikePlainHouseTest {
     private final PlainHouse plain = new PlainHouse();
 
     private LikePlainHouseTest(long seed) {
-        random = new Random(seed);
+        draws = new Draws(seed);
         wide = seed % 3 == 0;
         // In a short span of counts, moves, lifts and rehearsals come together.
-        span = 2 + random.nextInt(8);
+        span = 2 + draws.below(8);
     }
 
     public static void main(String[] args) {
@@ -57,7 +55,7 @@ public final class LikePlainHouseTest {
         for (int share : SHARES) {
             all += share;
         }
-        int left = random.nextInt(all);
+        int left = draws.below(all);
         int which = 0;
         while (left >= SHARES[which]) {
             left -= SHARES[which];
@@ -68,7 +66,7 @@ public final class LikePlainHouseTest {
 
     /** Mostly from least to most, seldom beside it or far away. */
     private int from(int least, int most) {
-        int kind = random.nextInt(150);
+        int kind = draws.below(150);
         if (kind == 0) {
             return least - 1;
         }
@@ -76,21 +74,21 @@ public final class LikePlainHouseTest {
             return most + 1;
         }
         if (kind == 2) {
-            return random.nextInt();
+            return draws.next();
         }
-        return least + random.nextInt(most - least + 1);
+        return least + draws.below(most - least + 1);
     }
 
     private int count() {
-        int kind = random.nextInt(20);
+        int kind = draws.below(20);
         if (wide || kind == 0) {
             return from(0, 63);
         }
-        return kind < 4 ? 63 - random.nextInt(2) : from(0, span);
+        return kind < 4 ? 63 - draws.below(2) : from(0, span);
     }
 
     private int someone() {
-        return from(0, wide || random.nextInt(12) == 0 ? 7 : 5);
+        return from(0, wide || draws.below(12) == 0 ? 7 : 5);
     }
 
     private int stagePlace() {
@@ -98,7 +96,7 @@ public final class LikePlainHouseTest {
     }
 
     private int last() {
-        return random.nextInt(3) == 0 ? from(1, 1000000000) : from(1, 2000);
+        return draws.below(3) == 0 ? from(1, 1000000000) : from(1, 2000);
     }
 
     private int[] argumentsFor(int which) {
@@ -109,14 +107,14 @@ public final class LikePlainHouseTest {
                 return new int[] {someone(), count(), from(-2, 2), from(-2, 2)};
             case "place":
             case "placeAnew":
-                return new int[] {someone(), count(), random.nextInt(2)};
+                return new int[] {someone(), count(), draws.below(2)};
             case "clashes":
             case "begins":
-                return new int[] {random.nextInt(4) == 0 ? from(0, 63) : count()};
+                return new int[] {draws.below(4) == 0 ? from(0, 63) : count()};
             case "lift":
                 return new int[] {count(), someone(), someone(), someone()};
             case "ofLift":
-                return new int[] {from(0, 11), random.nextInt(3) == 0 ? from(0, 4) : 4};
+                return new int[] {from(0, 11), draws.below(3) == 0 ? from(0, 4) : 4};
             case "tempo":
                 return new int[] {count(), last()};
             case "rehearse":

@@ -17,6 +17,8 @@ public final class RehearsalBoundsTest {
         staysAsPlanned();
         pointsOfMoves();
         pointsOfLifts();
+        liftsThatAreGone();
+        movesOfAVisit();
         roomIsTaken();
         takesPartInAnotherOne();
         sixtyPoints();
@@ -265,6 +267,51 @@ public final class RehearsalBoundsTest {
         c.due(15, x, "knees", 1);
         c.due(15, x, "knees", 2);
         c.due(5, x, "knees", 4);
+    }
+
+    /** "a lift there that is not gone": one that is gone brings nobody, and costs nobody who moves there. */
+    private static void liftsThatAreGone() {
+        for (int from = 4; from <= 5; from++) {
+            for (int to = 5; to <= 6; to++) {
+                Stepscript x = Houses.at(0, 0, 1, 0, 0, 1, 7, 7);
+                x.lift(5, 0, 1, 2);
+                x.move(1, 5, 0, 2);
+                c.due(7, x, "rehearse", 0, 8, from, to);
+                c.due(0, x, "hurt", 0);
+                c.due(2, x, "rehearse", 0, 9, from, to);
+                c.due(5, x, "knees", 0);
+                c.due(7 + 2, x, "knees", 1);
+                c.due(5, x, "knees", 2);
+            }
+        }
+        // With 12 of them, knees of 58 points bear the move.
+        Stepscript x = Houses.at(0, 0, 7, 0, 0, 7);
+        for (int lift = 0; lift < 12; lift++) {
+            x.lift(5, 0, 1, 2);
+        }
+        for (int count = 10; count < 25; count++) {
+            x.move(1, count, count == 10 ? 0 : 2, 2);
+        }
+        x.move(1, 5, 1, 1);
+        c.due(2, x, "rehearse", 0, 8, 10, 24);
+        c.refused(x, "rehearse", 0, 9, 5, 5);
+        c.due(0, x, "hurt", 0);
+        c.due(2, x, "rehearse", 0, 9, 5, 5);
+        c.due(60, x, "knees", 1);
+    }
+
+    /** Moves that were written for one who was hurt are "their moves there" too: the way, and the way back. */
+    private static void movesOfAVisit() {
+        Stepscript x = Houses.at(3, 3, 4, 3, 3, 4, 5, 1);
+        x.lift(20, 0, 1, 2);
+        c.due(1 + 2 + 4, x, "rehearse", 0, 8, 20, 21);
+        c.due(2, x, "hurt", 1);
+        c.due(8, x, "rehearse", 0, 9, 21, 63);
+        c.due(3, x, "knees", 3);
+        c.due(1 + 4 + 8, x, "rehearse", 0, 10, 0, 20);
+        c.due(3 + 3 + 5, x, "knees", 3);
+        c.due(5 + 5, x, "knees", 0);
+        c.due(5, x, "knees", 1);
     }
 
     /** "It is refused, if the room is taken in that hour". */
